@@ -71,7 +71,8 @@ public final class FatLean {
     public int text() {
         scribe.begin(trial);
         int lines = 0;
-        while (lines < MOST_TAPE && scribe.takesLine()) {
+        while (lines < MOST_TAPE && scribe.findsLine()) {
+            scribe.takeLine();
             lines++;
         }
         scribe.length = 0;
@@ -259,12 +260,7 @@ public final class FatLean {
             return BAD;
         }
         trial.copy(court);
-        for (int y = court.year; y < MOST_YEARS; y++) {
-            if (trial.passByHim(trial.fatIn(r, y)) > 0) {
-                return y;
-            }
-        }
-        return NONE;
+        return trial.firstHunger(r);
     }
 
     // ---- readings
@@ -508,13 +504,13 @@ public final class FatLean {
         int fault = sheet.faultAs(lane);
         int went = 0;
         trial.copy(court);
-        while (fault == 0 && went < n) {
+        for (int i = 0; i < n && fault == 0; i++) {
             // f stands inside the SHEET once a YEAR went, so this can not wrap around
-            int at = f + 2 * went;
+            int at = f + 2 * i;
             fault = sheet.faultAtBoth(at);
             if (fault == 0) {
                 if (trial.passTold(sheet.cells[at], sheet.cells[at + 1]) < 0) {
-                    return -20 - went;
+                    return -20 - i;
                 }
                 went++;
             }
@@ -581,8 +577,7 @@ public final class FatLean {
                 trial.appoint(kind, v);
                 trial.cap = cap;
                 trial.store = store;
-                trial.follow(r, MOST_YEARS);
-                if (trial.starved > court.starved) {
+                if (trial.firstHunger(r) != NONE) {
                     return false;
                 }
             }
@@ -734,14 +729,16 @@ public final class FatLean {
             return year >= MOST_YEARS;
         }
 
-        // LEFT and the hungry of a YEAR that begins with a STORE: the plans ask for other STORES than ours
-
-        int leftOf(int stored, int fat) {
-            return Math.max(0, stored + harvest(fat) - need);
+        int foodIn(int fat) {
+            return store + harvest(fat);
         }
 
-        int hungryOf(int stored, int fat) {
-            return Math.max(0, need - stored - harvest(fat));
+        int leftOf(int food) {
+            return Math.max(0, food - need);
+        }
+
+        int hungryOf(int food) {
+            return Math.max(0, need - food);
         }
 
         int unrotten(int kept) {
@@ -764,8 +761,9 @@ public final class FatLean {
 
         /** A YEAR of which all has been looked at: how many STARVED in it. */
         private int pass(int fat, int kept) {
-            int hungry = hungryOf(store, fat);
-            money += priceIn(fat) * (leftOf(store, fat) - kept);
+            int food = foodIn(fat);
+            int hungry = hungryOf(food);
+            money += priceIn(fat) * (leftOf(food) - kept);
             starved += hungry;
             store = unrotten(kept);
             past |= fat << year;
@@ -774,7 +772,7 @@ public final class FatLean {
         }
 
         int passTold(int fat, int kept) {
-            if (!isFlag(fat) || !within(kept, 0, Math.min(cap, leftOf(store, fat)))) {
+            if (!isFlag(fat) || !within(kept, 0, Math.min(cap, leftOf(foodIn(fat))))) {
                 return BAD;
             }
             return isOver() ? FULL : pass(fat, kept);
@@ -782,7 +780,7 @@ public final class FatLean {
 
         /** A YEAR by the STEWARD, of which there is one still. */
         int passByHim(int fat) {
-            return pass(fat, keptOf(leftOf(store, fat)));
+            return pass(fat, keptOf(leftOf(foodIn(fat))));
         }
 
         /** So many YEARS by a READING and the STEWARD, or as many as there are. */
@@ -790,6 +788,16 @@ public final class FatLean {
             for (int i = 0; i < years && !isOver(); i++) {
                 passByHim(fatIn(r, year));
             }
+        }
+
+        /** In which YEAR from now on somebody STARVES first by a READING and the STEWARD. */
+        int firstHunger(int r) {
+            for (int y = year; y < MOST_YEARS; y++) {
+                if (passByHim(fatIn(r, y)) > 0) {
+                    return y;
+                }
+            }
+            return NONE;
         }
 
         int fatIn(int r, int y) {
@@ -856,7 +864,7 @@ public final class FatLean {
             plan(asked, n);
             sumFrom(this, 1, part);
             choose(1, asked.oddsOf(part) * asked.priceIn(fat));
-            return choices[Math.min(asked.cap, asked.leftOf(asked.store, fat))];
+            return choices[Math.min(asked.cap, asked.leftOf(asked.foodIn(fat)))];
         }
 
         private void plan(Court asked, int n) {
@@ -886,20 +894,24 @@ public final class FatLean {
             int odds = court.oddsOf(part);
             int price = odds * court.priceIn(fat);
             int pain = odds * court.hunger;
+            int borne = court.harvest(fat);
             choose(depth + 1, price);
             for (int s = 0; s <= court.cap; s++) {
-                int left = court.leftOf(s, fat);
+                int left = court.leftOf(s + borne);
                 int kept = choices[Math.min(court.cap, left)];
-                int now = price * left - pain * court.hungryOf(s, fat);
+                int now = price * left - pain * court.hungryOf(s + borne);
                 sums[depth][s] += now + gain(depth + 1, price, kept);
             }
         }
 
         private void choose(int depth, int price) {
             int best = 0;
+            int most = gain(depth, price, 0);
             for (int kept = 0; kept <= court.cap; kept++) {
-                if (gain(depth, price, kept) > gain(depth, price, best)) {
+                int gained = gain(depth, price, kept);
+                if (gained > most) {
                     best = kept;
+                    most = gained;
                 }
                 choices[kept] = best;
             }
@@ -1014,18 +1026,10 @@ public final class FatLean {
             next = 0;
         }
 
-        /** Whether there was a line more, without FAULT. */
-        boolean takesLine() {
+        /** Whether there is a line more, and no FAULT so far. */
+        boolean findsLine() {
             take();
-            if (fault != 0 || token == TAPE_END) {
-                return false;
-            }
-            takeBody();
-            take();
-            if (token != SEMICOLON) {
-                fail(MISPLACED);
-            }
-            return fault == 0;
+            return fault == 0 && token != TAPE_END;
         }
 
         private void fail(int which) {
@@ -1101,7 +1105,7 @@ public final class FatLean {
 
         // ---- lines
 
-        private void takeBody() {
+        void takeLine() {
             if (isWord("land")) {
                 takeLand();
             } else if (isWord("dream")) {
@@ -1115,6 +1119,10 @@ public final class FatLean {
             } else if (isWord("steward")) {
                 takeSteward();
             } else {
+                fail(MISPLACED);
+            }
+            take();
+            if (token != SEMICOLON) {
                 fail(MISPLACED);
             }
         }

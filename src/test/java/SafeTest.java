@@ -103,7 +103,9 @@ public final class SafeTest {
         x.go(1, 0);
         due.is("some starved", x.rule(13), 21);
         x.need(8);
-        x.fill(3);
+        x.fill(20);
+        x.go(0, 3);
+        due.is("some was sold", x.rule(12), 72);
         for (int seed : new int[] {0, 1, -1, 12345, Integer.MAX_VALUE, Integer.MIN_VALUE}) {
             for (int n = 0; n <= 10; n++) {
                 int[] want = drawn(seed, n);
@@ -112,12 +114,12 @@ public final class SafeTest {
                 }
             }
         }
-        due.is("nothing goes", x.rule(11), 1);
+        due.is("nothing goes", x.rule(11), 2);
         due.is("drift(1, 11, 0)", x.drift(1, 11, 0), FatLean.BAD);
         due.is("drift(1, -1, 0)", x.drift(1, -1, 0), FatLean.BAD);
         due.is("drift(1, 1, 3)", x.drift(1, 1, 3), FatLean.BAD);
         due.is("drift(1, 1, -1)", x.drift(1, 1, -1), FatLean.BAD);
-        for (int y = 1; y < 8; y++) {
+        for (int y = 2; y < 8; y++) {
             x.year(0);
         }
         due.is("year is 8: store", x.drift(9, 5, 2), x.rule(6));
@@ -130,11 +132,12 @@ public final class SafeTest {
         x.need(40);
         x.go(1, 0);
         x.need(8);
-        x.fill(3);
+        x.fill(20);
+        x.go(0, 3);
         int money = x.rule(12);
         int starved = x.rule(13);
         int s = seed;
-        for (int y = 1; y < 8; y++) {
+        for (int y = 2; y < 8; y++) {
             s = s * 1103515245 + 12345;
             int bits = s >>> 16 & 0b111111111111111;
             x.year(bits % 10 < n ? 1 : 0);

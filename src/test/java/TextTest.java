@@ -99,7 +99,8 @@ public final class TextTest {
         x.go(0, 0);
         due.is("money is there", x.rule(12) > 0 ? 1 : 0, 1);
         due.is("some starve", x.rule(13) > 0 ? 1 : 0, 1);
-        due.is("what is ahead is not told", x.ahead(0, 4, 2), 20);
+        x.fill(9);
+        due.is("what is ahead is not told", x.ahead(0, 0, 0), 9);
         due.is("an empty text tells all", x.text(), 0);
         due.is("all is as at first, but sheets and torn", Due.all(x),
             "0 0 0 0 40 0 0 1 1 0 0 0 0 0 |||0 0 0 3 0 0 |0 3 0");
@@ -136,6 +137,12 @@ public final class TextTest {
         }
         due.is("no token behind a line", Due.faultOf("land 1 1; !"), "-20/1");
         due.is("no token at once", Due.faultOf("$"), "-10/1");
+        due.is("a word at the end of a full tape", Due.faultOf(" ".repeat(156) + "land"), "-170/2");
+        due.is("a number at the end of a full tape", Due.faultOf(" ".repeat(154) + "land 1"), "-170/2");
+        FatLean cut = new FatLean();
+        Due.feed(cut, "land 1 12");
+        cut.end(8);
+        due.is("what was cut off is not read", cut.text(), -18);
         due.is("no token inside a word", Due.faultOf("la-nd"), "-10/2");
         due.is("no token behind a word", Due.faultOf("land-"), "-14/1");
         due.is("no token behind a number", Due.faultOf("land 1-"), "-16/1");
@@ -233,6 +240,9 @@ public final class TextTest {
         x.go(0, 0);
         due.is("can not be", x.reading(0, 1), 0);
         due.is("can be still", x.reading(1, 1), 1);
+        FatLean four = Due.told("land 1 9;land 2 8;land 3 7;land 4 6;");
+        due.is("four lands bear", four.bears(1), 10);
+        due.is("four lands bear", four.bears(0), 30);
         due.is("the eighth year", Due.told("dream lllllllf 1;").reading(0, 17), 1);
     }
 }
