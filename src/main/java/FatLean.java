@@ -501,13 +501,13 @@ public final class FatLean {
             return BAD;
         }
         Sheet sheet = sheets[k];
-        int fault = sheet.faultAs(lane);
+        int fault = 0;
         int went = 0;
         trial.copy(court);
         for (int i = 0; i < n && fault == 0; i++) {
             // f stands inside the SHEET once a YEAR went, so this can not wrap around
             int at = f + 2 * i;
-            fault = sheet.faultAtBoth(at);
+            fault = sheet.faultOfYear(lane, at);
             if (fault == 0) {
                 if (trial.passTold(sheet.cells[at], sheet.cells[at + 1]) < 0) {
                     return -20 - i;
@@ -970,11 +970,6 @@ public final class FatLean {
             cells[i] = lane == BYTES ? (byte) v : lane == SHORTS ? (short) v : v;
         }
 
-        /** Nothing can be taken as of every lane: the machine minds it only when a CELL is asked for. */
-        int faultAs(int wanted) {
-            return !isNothing() && lane != wanted ? CAST_FAULT : 0;
-        }
-
         int faultAt(int i) {
             if (isNothing()) {
                 return NULL_FAULT;
@@ -982,7 +977,11 @@ public final class FatLean {
             return within(i, 0, size - 1) ? 0 : INDEX_FAULT;
         }
 
-        int faultAtBoth(int i) {
+        /** A YEAR's two CELLS, of the row taken as of a lane: nothing can be taken as of every lane. */
+        int faultOfYear(int wanted, int i) {
+            if (!isNothing() && lane != wanted) {
+                return CAST_FAULT;
+            }
             int fault = faultAt(i);
             return fault != 0 ? fault : faultAt(i + 1);
         }

@@ -742,6 +742,11 @@ public final class Model implements Cloneable {
         }
     }
 
+    private static int cell(Object sheet, int lane, int at) {
+        return lane == 0 ? ((byte[]) sheet)[at] : lane == 1 ? ((short[]) sheet)[at] : ((int[]) sheet)[at];
+    }
+
+    /** The row is taken as of its lane by each YEAR: with no YEARS the machine has nothing to refuse. */
     public int read(int k, int lane, int f, int n) {
         if (!in(k, 0, 3) || !in(lane, 0, 2) || !in(n, 0, 20)) {
             return BAD;
@@ -750,13 +755,9 @@ public final class Model implements Cloneable {
         int went = 0;
         int found = 0;
         try {
-            byte[] b = lane == 0 ? (byte[]) sheets[k] : null;
-            short[] s = lane == 1 ? (short[]) sheets[k] : null;
-            int[] w = lane == 2 ? (int[]) sheets[k] : null;
             for (; went < n; went++) {
-                int at = f + 2 * went;
-                int fat = lane == 0 ? b[at] : lane == 1 ? s[at] : w[at];
-                int kept = lane == 0 ? b[at + 1] : lane == 1 ? s[at + 1] : w[at + 1];
+                int fat = cell(sheets[k], lane, f + 2 * went);
+                int kept = cell(sheets[k], lane, f + 2 * went + 1);
                 if (go(fat, kept) < 0) {
                     now = before;
                     return -20 - went;

@@ -223,15 +223,23 @@ public final class SheetsTest {
         due.is("index", x.torn(), 2);
     }
 
-    /** A row of another lane can not be taken as of this one; nothing is minded only when a cell is asked for. */
+    /** With no years there is none that the machine refuses, whatever the sheet; it is the latest read() all the same. */
     private static void readOfNoYears(Due due) {
         FatLean x = withSheet(1);
-        due.is("no years", x.read(2, 1, 99, 0), 0);
-        due.is("not torn", x.torn(), 0);
-        due.is("no years, another lane", x.read(2, 2, 0, 0), 0);
-        due.is("cast", x.torn(), 3);
-        due.is("no years of nothing", x.read(3, 2, 0, 0), 0);
-        due.is("not torn", x.torn(), 0);
+        x.sheet(0, 1, 0);
+        int[][] reads = {{2, 1, 0}, {2, 1, 99}, {2, 1, -1}, {2, 1, Integer.MIN_VALUE}, {2, 0, 0}, {2, 2, 0}, {2, 2, -1},
+            {3, 0, 0}, {3, 2, -1}, {0, 0, 0}, {0, 1, 0}, {0, 2, 7}};
+        String before = Due.all(x);
+        for (int[] r : reads) {
+            String told = "read " + r[0] + " " + r[1] + " " + r[2];
+            x.read(2, 0, 0, 1);
+            due.is(told + ": torn ahead of it", x.torn(), 3);
+            due.is(told + " 0", x.read(r[0], r[1], r[2], 0), 0);
+            due.is(told + " 0: all is as before, not torn", Due.all(x), before);
+        }
+        for (int[] bad : new int[][] {{4, 1}, {-1, 1}, {2, 3}, {2, -1}}) {
+            due.is("no years, but bad", x.read(bad[0], bad[1], 0, 0), FatLean.BAD);
+        }
     }
 
     private static void count(Due due) {
