@@ -25,14 +25,18 @@ public final class BoundsBooksTest {
         s.holds(33, "FULL", WHOLE, "see(1,1)*6=6 see(1,1)=FULL see(8,40)=FULL see(2,0)=FULL count(0)=6");
         s.holds(33, "FULL, but BAD is the first that fits", WHOLE, "see(1,1)*6 see(0,1)=BAD see(9,1)=BAD see(1,-1)=BAD "
             + "see(1,41)=BAD see(1,1)=FULL");
-        s.holds(33, "one can be SEEN again where one was forgotten", WHOLE, "see(1,1)*6 forget(5)=6 see(2,2)=6 see(2,2)=FULL");
-        s.holds(33, "BAD: y", WHOLE, RICH + "see(0,1)=BAD see(9,1)=BAD see(-1,1)=BAD see(MIN,1)=BAD see(MAX,1)=BAD count(0)=2");
+        s.holds(33, "one can be SEEN again where one was forgotten", WHOLE, "see(1,1)*6 forget(5)=6 see(2,2)=6 "
+            + "see(2,2)=FULL");
+        s.holds(33, "BAD: y", WHOLE, RICH + "see(0,1)=BAD see(9,1)=BAD see(-1,1)=BAD see(MIN,1)=BAD see(MAX,1)=BAD "
+            + "count(0)=2");
         s.holds(33, "BAD: a STORE", WHOLE, RICH + "see(1,-1)=BAD see(1,41)=BAD see(8,MIN)=BAD see(8,MAX)=BAD count(0)=2");
     }
 
     private static void forget(Script s) {
-        s.holds(34, "how many there were", WHOLE, "see(1,1)*3=3 forget(3)=3 forget(2)=3 forget(0)=2 forget(0)=0 count(0)=0");
-        s.holds(34, "the first n alone", "land 9 0;dream f 1;", "see(1,9) see(2,8) see(3,7) fits()=0 forget(2)=3 fits()=0 "
+        s.holds(34, "how many there were", WHOLE, "see(1,1)*3=3 forget(3)=3 forget(2)=3 forget(0)=2 forget(0)=0 "
+            + "count(0)=0");
+        s.holds(34, "the first n alone", "land 9 0;dream f 1;", "see(1,9) see(2,8) see(3,7) fits()=0 forget(2)=3 "
+            + "fits()=0 "
             + "forget(1)=2 fits()=1 see(2,9)=2 fits()=1");
         s.holds(34, "of six", WHOLE, "see(1,1)*6 forget(7)=BAD forget(6)=6 forget(5)=6 forget(6)=BAD count(0)=5");
         s.holds(34, "of none", WHOLE, "forget(0)=0 forget(1)=BAD forget(-1)=BAD");
@@ -44,11 +48,15 @@ public final class BoundsBooksTest {
     private static void behindYearSeven(Script s) {
         String text = "land 1 0;dream ffffffff 1;";
         s.holds(0, "behind y YEARS: 1 to 8, YEAR is 0", text, "see(1,1) see(7,7) see(8,8) fits()=1 see(8,7) fits()=0");
-        s.holds(0, "from now on: YEAR is 1", text, "see(1,1) fits()=1 year(1) fits()=0 forget(0) see(1,2) see(6,7) fits()=1");
-        s.holds(0, "behind YEAR 7 STORE stays as it is: YEAR is 1", text, "year(1) see(7,8) see(8,8) fits()=1 see(8,9) fits()=0");
-        s.holds(0, "behind YEAR 7 STORE stays as it is: YEAR is 7", text, SEVEN_LEAN + "see(1,1) see(2,1) see(8,1) fits()=1 "
+        s.holds(0, "from now on: YEAR is 1", text, "see(1,1) fits()=1 year(1) fits()=0 forget(0) see(1,2) see(6,7) "
+            + "fits()=1");
+        s.holds(0, "behind YEAR 7 STORE stays as it is: YEAR is 1", text, "year(1) see(7,8) see(8,8) fits()=1 see(8,9) "
+            + "fits()=0");
+        s.holds(0, "behind YEAR 7 STORE stays as it is: YEAR is 7", text, SEVEN_LEAN + "see(1,1) see(2,1) see(8,1) "
+            + "fits()=1 "
             + "stewards(0,1)=0 see(1,0) fits()=0");
-        s.holds(0, "behind YEAR 7 STORE stays as it is: YEAR is 8", text, SEVEN_LEAN + "go(1,1) see(1,1) see(8,1) fits()=1 "
+        s.holds(0, "behind YEAR 7 STORE stays as it is: YEAR is 8", text, SEVEN_LEAN + "go(1,1) see(1,1) see(8,1) "
+            + "fits()=1 "
             + "stewards(0,0)=50 hoards(0)=1023 see(8,0) fits()=0 stewards(0,0)=0 hoards(0)=0");
         s.holds(0, "nothing is stolen behind YEAR 7", text, SEVEN_LEAN + "fill(5) see(1,4) see(8,4) hoards(0)=0b100");
     }
@@ -66,11 +74,14 @@ public final class BoundsBooksTest {
         s.holds(35, "by a READING: nothing is LEFT by the other", text, "see(1,0) stewards(1,0)=50 forget(0) see(1,1) "
             + "stewards(1,0)=0 stewards(1,1)=NONE stewards(0,1)=41");
         s.holds(35, "whether it CAN BE or not", text, "year(0) see(1,0) stewards(0,0)=50 stewards(1,0)=50");
-        s.holds(35, "all that is SEEN, the last of six, too", text, "see(1,9)*5=5 stewards(0,0)=1 see(1,10)=6 stewards(0,0)=0");
+        s.holds(35, "all that is SEEN, the last of six, too", text, "see(1,9)*5=5 stewards(0,0)=1 see(1,10)=6 "
+            + "stewards(0,0)=0");
         s.holds(35, "BAD: no such READING", WHOLE, RICH + "stewards(3,0)=BAD stewards(-1,1)=BAD stewards(4,0)=BAD "
             + "stewards(MIN,0)=BAD stewards(MAX,1)=BAD");
-        s.holds(35, "BAD: what", WHOLE, RICH + "stewards(0,-1)=BAD stewards(0,2)=BAD stewards(0,MIN)=BAD stewards(0,MAX)=BAD");
-        s.holds(35, "NONE, but BAD is the first that fits", text, "see(1,36) stewards(0,1)=NONE stewards(2,1)=BAD stewards(0,2)=BAD");
+        s.holds(35, "BAD: what", WHOLE, RICH + "stewards(0,-1)=BAD stewards(0,2)=BAD stewards(0,MIN)=BAD "
+            + "stewards(0,MAX)=BAD");
+        s.holds(35, "NONE, but BAD is the first that fits", text, "see(1,36) stewards(0,1)=NONE stewards(2,1)=BAD "
+            + "stewards(0,2)=BAD");
     }
 
     private static void hoards(Script s) {
@@ -79,12 +90,15 @@ public final class BoundsBooksTest {
         s.holds(36, "nothing", text, "see(1,9) hoards(0)=1");
         s.holds(36, "9", text, "see(1,0) hoards(0)=0b1000000000");
         s.holds(36, "it would be below 0", text, "see(1,10) hoards(0)=0");
-        s.holds(36, "it would be above 9", "land 9 0;land 9 0;dream f 1;", "see(1,8) hoards(0)=0 see(1,9) hoards(0)=0 forget(0) "
+        s.holds(36, "it would be above 9", "land 9 0;land 9 0;dream f 1;", "see(1,8) hoards(0)=0 see(1,9) hoards(0)=0 "
+            + "forget(0) "
             + "see(1,9) hoards(0)=0b1000000000");
-        s.holds(36, "0 at least", text, "see(2,0) hoards(0)=0b1111100000 forget(0) see(2,1) hoards(0)=0b10000 forget(0) see(8,0) "
+        s.holds(36, "0 at least", text, "see(2,0) hoards(0)=0b1111100000 forget(0) see(2,1) hoards(0)=0b10000 forget(0) "
+            + "see(8,0) "
             + "hoards(0)=0b1111111100");
         s.holds(36, "behind all else: behind ROT", "land 9 0;dream f 1;granary 40 2 0;", "see(1,3) hoards(0)=0b100");
-        s.holds(36, "behind all else: behind what is eaten", "land 9 0;dream f 1;people 4 0;", "see(1,3) hoards(0)=0b100");
+        s.holds(36, "behind all else: behind what is eaten", "land 9 0;dream f 1;people 4 0;", "see(1,3) "
+            + "hoards(0)=0b100");
         s.holds(36, "by the STEWARD", text, "steward(3,0) see(1,0) hoards(0)=1023 see(1,1) hoards(0)=0");
         s.holds(36, "whether it CAN BE or not", text, "year(0) see(1,0) hoards(0)=1023");
         s.holds(36, "BAD", WHOLE, RICH + "hoards(-1)=BAD hoards(3)=BAD hoards(4)=BAD hoards(MIN)=BAD hoards(MAX)=BAD");
@@ -100,7 +114,8 @@ public final class BoundsBooksTest {
         s.holds(37, "bits: none", four, "see(1,0) fits()=0");
         s.holds(37, "the last YEAR", four, "see(8,12) fits()=0b1011 forget(0) see(8,16) fits()=0b100");
         s.holds(37, "by the STEWARD", four, "steward(3,5) see(1,0) see(8,0) fits()=15");
-        s.holds(37, "whether they CAN BE or not", four, "go(0,0) go(0,0) go(1,0) can()=0 fits()=15 see(8,5) fits()=0b0111 "
+        s.holds(37, "whether they CAN BE or not", four, "go(0,0) go(0,0) go(1,0) can()=0 fits()=15 see(8,5) "
+            + "fits()=0b0111 "
             + "forget(0) see(8,9) fits()=0b1000");
     }
 }

@@ -49,7 +49,8 @@ public final class BoundsTextTest {
     private static void tape(Script s) {
         s.holds(2, "a byte (0 to 127)", "", "feed(0)=1 feed(127)=2 feed(1)=3 feed(126)=4 count(2)=4");
         s.holds(2, "BAD: below 0", WHOLE, RICH + "feed(-1)=BAD feed(-128)=BAD feed(MIN)=BAD count(2)=9");
-        s.holds(2, "BAD: above 127", WHOLE, RICH + "feed(128)=BAD feed(255)=BAD feed(256)=BAD feed(288)=BAD feed(MAX)=BAD "
+        s.holds(2, "BAD: above 127", WHOLE, RICH + "feed(128)=BAD feed(255)=BAD feed(256)=BAD feed(288)=BAD "
+            + "feed(MAX)=BAD "
             + "count(2)=9");
         s.holds(2, "how many it has", WHOLE, "feed(32)=1 feed(32)=2 end(1)=2 feed(32)=2 text()=0 feed(32)=1");
         s.holds(2, "160 at most", "", "feed(32)*159=159 feed(32)=160 count(2)=160");
@@ -63,11 +64,14 @@ public final class BoundsTextTest {
 
     private static void end(Script s) {
         s.holds(3, "how many it had", "", "feed[abc] end(3)=3 end(2)=3 end(0)=2 end(0)=0 count(2)=0");
-        s.holds(3, "its first n bytes", "", "feed[land 1 2;price 3] end(9)=16 count(2)=9 text()=1 land(0,1)=1 land(0,0)=2");
+        s.holds(3, "its first n bytes", "", "feed[land 1 2;price 3] end(9)=16 count(2)=9 text()=1 land(0,1)=1 "
+            + "land(0,0)=2");
         s.holds(3, "what was cut off is not read: a figure", "", "feed[land 1 12] end(8)=9 text()=-18 fault()=2");
         s.holds(3, "what was cut off is not read: a letter", "", "feed[landx] end(4)=5 text()=-14 fault()=2");
-        s.holds(3, "what was cut off is not read: blanks, a line", "", "feed[land 1 2;   price 1 1;] end(12)=22 text()=1 fault()=0");
-        s.holds(3, "what was told is not read again", "", "tell[land 1 12;]=-17/3 tell[land 1 1]=-18/2 tell[lan]=-10/2 tell[]=0/0");
+        s.holds(3, "what was cut off is not read: blanks, a line", "", "feed[land 1 2;   price 1 1;] end(12)=22 "
+            + "text()=1 fault()=0");
+        s.holds(3, "what was told is not read again", "", "tell[land 1 12;]=-17/3 tell[land 1 1]=-18/2 tell[lan]=-10/2 "
+            + "tell[]=0/0");
         s.holds(3, "what comes then is behind them", "", "feed[land 1 2;] end(5)=9 feed[7 8;] text()=1 land(0,1)=7");
         s.holds(3, "0: none", WHOLE, RICH + "end(0)=9 count(2)=0 text()=0");
         s.holds(3, "BAD: below 0", WHOLE, RICH + "end(-1)=BAD end(MIN)=BAD count(2)=9");
@@ -80,11 +84,14 @@ public final class BoundsTextTest {
         s.holds(4, "how many lines: none", "", "tell[]=0/0 tell[ ]=0/0");
         s.holds(4, "how many lines: none in 160 blanks", "", "feed(32)*160 text()=0 fault()=0");
         s.holds(4, "how many lines: one", "", "tell[price 1 1;]=1/0");
-        s.holds(4, "how many lines: as many as may be", "", "tell[land 0 0;land 0 0;land 0 0;land 0 0;dream f 1;dream f 1;"
+        s.holds(4, "how many lines: as many as may be", "", "tell[land 0 0;land 0 0;land 0 0;land 0 0;dream f 1;dream f "
+            + "1;"
             + "dream f 1;dream f 1;people 0 0;granary 0 0 0;price 0 0;steward all 0;]=12/0");
-        s.holds(4, "a line that ends at the last place", "", "feed(32)*151 feed[land 1 2;] count(2)=160 text()=1 fault()=0 "
+        s.holds(4, "a line that ends at the last place", "", "feed(32)*151 feed[land 1 2;] count(2)=160 text()=1 "
+            + "fault()=0 "
             + "land(0,0)=2");
-        s.holds(4, "THE TAPE is empty then", "", "tell[land 1 1;]=1 count(2)=0 text()=0 tell[land 1]=-16 count(2)=0 text()=0 "
+        s.holds(4, "THE TAPE is empty then", "", "tell[land 1 1;]=1 count(2)=0 text()=0 tell[land 1]=-16 count(2)=0 "
+            + "text()=0 "
             + "fault()=0");
         s.holds(4, "-10 less the place: the first", WHOLE, "tell[?]=-10/1");
         s.holds(4, "-10 less the place: the last", "", "feed(32)*159 feed(36) text()=-169 fault()=1 count(2)=0");
@@ -103,21 +110,27 @@ public final class BoundsTextTest {
             + "land(0,0)=BAD reading(0,0)=BAD can()=0 count(5)=0");
         s.holds(4, "a text of lands: all else is as at first", WHOLE, had + "tell[land 3 4;]=1 rule(0)=1 land(0,1)=3 "
             + "land(1,0)=BAD rule(1)=0 rule(2)=0 rule(4)=40 rule(5)=0 rule(6)=0 rule(8)=1 rule(9)=0 rule(10)=0");
-        s.holds(4, "a text of dreams: THE PAST is gone", WHOLE, had + "tell[dream l 5;]=1 rule(1)=1 reading(0,0)=5 can()=1 "
+        s.holds(4, "a text of dreams: THE PAST is gone", WHOLE, had + "tell[dream l 5;]=1 rule(1)=1 reading(0,0)=5 "
+            + "can()=1 "
             + "reading(1,0)=BAD rule(0)=0 rule(2)=0 rule(3)=0 rule(11)=0");
-        s.holds(4, "a text of people", WHOLE, had + "tell[people 5 6;]=1 rule(0)=0 rule(1)=0 rule(2)=5 rule(3)=6 rule(4)=40 "
+        s.holds(4, "a text of people", WHOLE, had + "tell[people 5 6;]=1 rule(0)=0 rule(1)=0 rule(2)=5 rule(3)=6 "
+            + "rule(4)=40 "
             + "rule(7)=1 rule(8)=1 rule(9)=0 rule(10)=0 rule(13)=0");
         s.holds(4, "a text of a granary", WHOLE, had + "tell[granary 7 3 2;]=1 rule(2)=0 rule(3)=0 rule(4)=7 rule(5)=3 "
             + "rule(6)=2 rule(8)=1");
-        s.holds(4, "a text of prices", WHOLE, had + "tell[price 4 5;]=1 rule(4)=40 rule(5)=0 rule(6)=0 rule(7)=4 rule(8)=5 "
+        s.holds(4, "a text of prices", WHOLE, had + "tell[price 4 5;]=1 rule(4)=40 rule(5)=0 rule(6)=0 rule(7)=4 "
+            + "rule(8)=5 "
             + "rule(12)=0");
-        s.holds(4, "a text of a steward", WHOLE, had + "tell[steward need 7;]=1 rule(2)=0 rule(7)=1 rule(9)=4 rule(10)=7");
+        s.holds(4, "a text of a steward", WHOLE, had + "tell[steward need 7;]=1 rule(2)=0 rule(7)=1 rule(9)=4 "
+            + "rule(10)=7");
         s.holds(4, "nothing is SEEN", WHOLE, RICH + "count(0)=2 text()=1 count(0)=0 forget(1)=BAD see(1,1)=1");
-        s.holds(4, "IMAGES are gone", WHOLE, RICH + "count(1)=2 text()=1 count(1)=0 back(0)=STATE back(1)=STATE keep(0)=0 "
+        s.holds(4, "IMAGES are gone", WHOLE, RICH + "count(1)=2 text()=1 count(1)=0 back(0)=STATE back(1)=STATE "
+            + "keep(0)=0 "
             + "keep(1)=0");
         s.holds(4, "SHEETS and torn() stay", WHOLE, RICH + "text()=1 count(3)=4 torn()=3 lay(0,3,1)=1 lay(0,4,1)=-12 "
             + "lay(3,1,1)=1 read(0,1,0,1)=-20");
-        s.holds(4, "SEEN and IMAGES stay if it is refused", WHOLE, RICH + "feed(36) text()=-19 count(0)=2 count(1)=2 back(0)=0 "
+        s.holds(4, "SEEN and IMAGES stay if it is refused", WHOLE, RICH + "feed(36) text()=-19 count(0)=2 count(1)=2 "
+            + "back(0)=0 "
             + "back(1)=1");
     }
 
@@ -125,7 +138,8 @@ public final class BoundsTextTest {
         s.holds(5, "0: of none", "", "fault()=0 feed(36) fault()=0");
         s.holds(5, "0: of a text that was taken", "", "tell[$] fault()=1 text()=0 fault()=0");
         s.holds(5, "of the latest text()", "", "tell[$] fault()=1 tell[;] fault()=2 tell[land 10] fault()=3 "
-            + "tell[price 1 1;price] fault()=4 tell[land 1 1;land 1 1;land 1 1;land 1 1;land] fault()=5 feed(36) fault()=5 "
+            + "tell[price 1 1;price] fault()=4 tell[land 1 1;land 1 1;land 1 1;land 1 1;land] fault()=5 feed(36) "
+            + "fault()=5 "
             + "end(0)=1 fault()=5");
         s.holds(5, "no other call changes it", WHOLE, RICH + "fault()=2 back(0)=0 fault()=2 read(0,1,2,1)=1 fault()=2 "
             + "feed(128)=BAD fault()=2 sheet(0,0,-1)=-14 fault()=2");
@@ -144,7 +158,8 @@ public final class BoundsTextTest {
         due.is("a TOKEN as long as may be: a word", Due.faultOf("landland 1"), "-10/2");
         due.is("a TOKEN as long as may be: a NUMBER", Due.faultOf("land 12;"), "-15/3");
         due.is("one ; is a TOKEN", Due.faultOf("land 1 1;;"), "-19/2");
-        due.is("no blanks where TOKENS end by themselves", Due.faultOf("land1 1;dream f1;people1 1;steward all1;"), "4/0");
+        due.is("no blanks where TOKENS end by themselves", Due.faultOf("land1 1;dream f1;people1 1;steward "
+            + "all1;"), "4/0");
         due.is("blanks between", Due.faultOf("   land   1   1   ;   "), "1/0");
         for (int c = 0; c < 128; c++) {
             everyByte(due, c);
@@ -212,7 +227,8 @@ public final class BoundsTextTest {
             }
         }
         for (String word : new String[] {"lan", "lands", "and", "drea", "dreams", "peopl", "peoples", "granar", "granarys",
-            "pric", "prices", "stewar", "stewards", "sand", "bream", "teople", "branary", "arice", "ateward", "lanb", "dreal", "all", "part", "level", "none", "need", "f", "l", "a", "z"}) {
+            "pric", "prices", "stewar", "stewards", "sand", "bream", "teople", "branary", "arice", "ateward", "lanb",
+            "dreal", "all", "part", "level", "none", "need", "f", "l", "a", "z"}) {
             due.is("a word that begins no line: " + word, Due.faultOf(" " + word + " 1 1;"), "-11/2");
         }
         for (String word : new String[] {"al", "alls", "par", "parts", "leve", "levels", "non", "nones", "nee", "needs",
@@ -239,12 +255,14 @@ public final class BoundsTextTest {
         due.is("ROT 1", Due.faultOf("granary 5 1 0;"), "-20/3");
         due.is("ROT 01", Due.faultOf("granary 5 01 0;"), "-20/3");
         due.is("ROT 2", Due.faultOf("granary 5 2 0;"), "1/0");
-        s.holds(0, "STORE as CAP", "", "tell[granary 40 9 40;]=1/0 rule(4)=40 rule(5)=9 rule(6)=40 tell[granary 0 2 0;]=1/0 "
+        s.holds(0, "STORE as CAP", "", "tell[granary 40 9 40;]=1/0 rule(4)=40 rule(5)=9 rule(6)=40 tell[granary 0 2 "
+            + "0;]=1/0 "
             + "rule(4)=0 rule(5)=2 rule(6)=0");
         due.is("STORE above CAP", Due.faultOf("granary 39 0 40;"), "-23/3");
         due.is("STORE above CAP, which is 0", Due.faultOf("granary 0 0 1;"), "-22/3");
         due.is("STORE above CAP, which is 40", Due.faultOf("granary 40 0 41;"), "-23/3");
-        s.holds(0, "STORE above CAP of this text, not of the former one", "granary 40 0 40;", "tell[granary 9 0 10;]=-22/3");
+        s.holds(0, "STORE above CAP of this text, not of the former one", "granary 40 0 40;", "tell[granary 9 0 "
+            + "10;]=-22/3");
         s.holds(0, "STORE may be above CAP of the former text", "granary 5 0 5;", "tell[granary 9 0 9;]=1/0 rule(6)=9");
         String w = "";
         for (int years = 1; years <= 8; years++) {
@@ -291,7 +309,8 @@ public final class BoundsTextTest {
         String lines = "people 0 0;granary 0 0 0;price 0 0;steward all 0;";
         due.is("each once", Due.faultOf(lines), "4/0");
         s.holds(0, "once in each text, not once for all", lines, "tell[" + lines + "]=4/0");
-        s.holds(0, "once in each text, whatever was refused", "", "tell[people 1 1;price 1 1;x]=-31/2 tell[" + lines + "]=4/0");
+        s.holds(0, "once in each text, whatever was refused", "", "tell[people 1 1;price 1 1;x]=-31/2 "
+            + "tell[" + lines + "]=4/0");
         String lands = "land 1 1;".repeat(4);
         String dreams = "dream f 1;".repeat(4);
         due.is("the 4th land", Due.faultOf(lands), "4/0");
@@ -308,10 +327,12 @@ public final class BoundsTextTest {
         String[][] texts = {{"land 10 $", "-15/3"}, {"land 1 10$", "-17/3"}, {"land 1 1$", "-18/1"}, {"land x$", "-15/2"},
             {"lan$", "-10/2"}, {"land$", "-14/1"}, {"$land", "-10/1"}, {"dream g 100", "-16/3"}, {"dream f$", "-17/1"},
             {"dream fffffffff$", "-16/3"}, {"dream f 0$", "-18/3"}, {"dream f 10 1", "-18/3"}, {"steward x 100", "-18/2"},
-            {"steward all$", "-21/1"}, {"granary 41 1 99", "-18/3"}, {"granary 5 1 99", "-20/3"}, {"granary 5 1$", "-20/3"},
+            {"steward all$", "-21/1"}, {"granary 41 1 99", "-18/3"}, {"granary 5 1 99", "-20/3"}, {"granary 5 "
+            + "1$", "-20/3"},
             {"people 41 21", "-17/3"}, {"price 10 10", "-16/3"}, {"people 1 1;people$", "-21/4"},
             {"people 1 1;people 99 99", "-21/4"}, {"price 1 1;price 100", "-20/4"}, {"land 1 1 1;$", "-19/2"},
-            {"land 1 1;land 1 1;land 1 1;land 1 1;land$", "-46/5"}, {"land 1 1;land 1 1;land 1 1;land 1 1;landx", "-46/2"},
+            {"land 1 1;land 1 1;land 1 1;land 1 1;land$", "-46/5"}, {"land 1 1;land 1 1;land 1 1;land 1 "
+            + "1;landx", "-46/2"},
             {"land 1 1;land 1 1;land 1 1;land 1 1;land 100", "-46/5"}, {"land 1 1;;$", "-19/2"}, {"land 1 1;$;", "-19/1"},
             {"land 100 x", "-15/1"}, {"land 99 100", "-15/3"}};
         for (String[] t : texts) {
@@ -333,10 +354,12 @@ public final class BoundsTextTest {
 
     private static void land(Script s) {
         String four = "land 1 9;land 2 8;land 3 7;land 4 6;";
-        s.holds(7, "0 LEAN, 1 FAT, of each", four, "land(0,0)=9 land(0,1)=1 land(1,0)=8 land(1,1)=2 land(2,0)=7 land(2,1)=3 "
+        s.holds(7, "0 LEAN, 1 FAT, of each", four, "land(0,0)=9 land(0,1)=1 land(1,0)=8 land(1,1)=2 land(2,0)=7 "
+            + "land(2,1)=3 "
             + "land(3,0)=6 land(3,1)=4");
         s.holds(7, "0 and 9", "land 0 9;land 9 0;", "land(0,1)=0 land(0,0)=9 land(1,1)=9 land(1,0)=0");
-        s.holds(7, "BAD: no such LAND", WHOLE, RICH + "land(-1,0)=BAD land(2,0)=BAD land(3,1)=BAD land(4,0)=BAD land(MIN,0)=BAD "
+        s.holds(7, "BAD: no such LAND", WHOLE, RICH + "land(-1,0)=BAD land(2,0)=BAD land(3,1)=BAD land(4,0)=BAD "
+            + "land(MIN,0)=BAD "
             + "land(MAX,1)=BAD");
         s.holds(7, "BAD: no such LAND of four", four, "land(4,0)=BAD land(-1,1)=BAD land(3,0)=6");
         s.holds(7, "BAD: no LANDS", "dream f 1;", "land(0,0)=BAD land(-1,0)=BAD");
@@ -356,7 +379,8 @@ public final class BoundsTextTest {
             + "reading(0,1)=0 reading(1,1)=1");
         s.holds(8, "1 whether it CAN BE: behind the first YEAR", four, "go(0,0) reading(0,1)=0 reading(1,1)=1 "
             + "reading(2,1)=1 reading(3,1)=0");
-        s.holds(8, "BAD: no such READING", WHOLE, RICH + "reading(-1,0)=BAD reading(3,0)=BAD reading(4,1)=BAD reading(MIN,10)=BAD "
+        s.holds(8, "BAD: no such READING", WHOLE, RICH + "reading(-1,0)=BAD reading(3,0)=BAD reading(4,1)=BAD "
+            + "reading(MIN,10)=BAD "
             + "reading(MAX,0)=BAD");
         s.holds(8, "BAD: no such READING of four", four, "reading(4,0)=BAD reading(-1,10)=BAD");
         s.holds(8, "BAD: what", WHOLE, RICH + "reading(0,-1)=BAD reading(0,2)=BAD reading(0,9)=BAD reading(0,18)=BAD "
